@@ -289,6 +289,7 @@ public final class PixelFormula {
             if (kind == INPUT) {
                 return inputs[first];
             }
+            // Where only one instruction belongs to it, second is 0, which is there too and does no harm.
             return Numbers.operate(kind, made[first], made[second]);
         }
 

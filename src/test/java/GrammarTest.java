@@ -42,7 +42,7 @@ public final class GrammarTest {
         // dots
         "c.", "c.w", "c.X", "c.xyzx", "c.xyz.xyz", "c.x.x*c", ".x*c", "c..x*c", "x.y*c", "x.z*c", "t.xxy", "(1).yyy",
         "V(x,y).xyz", "c.xy.xyx", "(c.xy).xyz", "M(c.xy,c.xy).xxx", "m=M(c.xy,c.xy);m.x*c", "c.1", "c.(x)", "c.-x*c",
-        "c.x,y", "D(c,c).y*c", "c.xyt",
+        "c.x,y", "D(c,c).y*c", "c.xyt", "a=c.xyzx;c", "V(c.xyzx*c.xy,1)", "a=x.xxxx;c",
         // brackets
         "(", ")", "()", "(c", "c)", "(c))", "((c)", "((((((c))))))", "A(A(A(A(A(A(c))))))", "(((((A(c))))))",
         "(((((V(x,y,t))))))", "V(((((x)))),y,((((((t))))))", "(c)(c)", "c(c)", "x(c)", "(c,c)", "c(", "(c;c)",
