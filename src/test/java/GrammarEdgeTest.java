@@ -13,8 +13,14 @@ public final class GrammarEdgeTest {
         lettersThatCanNotBeGiven();
         fiveBracketsOpen();
         bracketsThatDoNotFit();
+        wrongPiecesInEachPlace();
+        anyCharacterInsteadOfAPart();
         wholeLength();
         Check.end();
+    }
+
+    private static void due(String text, boolean isAccepted) {
+        Check.same("compile() of " + text, Check.compile(new PixelFormula(), text) ? 1 : 0, isAccepted ? 1 : 0);
     }
 
     private static void accepted(String text) {
@@ -62,7 +68,7 @@ public final class GrammarEdgeTest {
                 boolean fits = whole >= 1 && whole <= 4 && (more < 0 || more >= 1 && more <= 4);
                 String[] texts = {constant + "*c", "c*" + constant, "(" + constant + ").xxx", "a=" + constant + ";c"};
                 for (String text : texts) {
-                    Check.same("compile() of " + text, Check.compile(new PixelFormula(), text) ? 1 : 0, fits ? 1 : 0);
+                    due(text, fits);
                 }
             }
         }
@@ -145,6 +151,9 @@ public final class GrammarEdgeTest {
             refused("a=1;" + letter + "=a;c");
             refused(letter + "=" + letter + ";c");
             refused(letter + "=;c");
+            refused(letter + "=c");
+            refused("a=1;" + letter + "=c");
+            refused("a=1;" + letter + "=a*c");
         }
         for (char letter = 'A'; letter <= 'Z'; letter++) {
             refused(letter + "=1;c");
@@ -196,7 +205,7 @@ public final class GrammarEdgeTest {
             for (int closed = 0; closed <= 7; closed++) {
                 String text = "(".repeat(open) + "c" + ")".repeat(closed);
                 boolean fits = open == closed && open <= 5;
-                Check.same("compile() of " + text, Check.compile(new PixelFormula(), text) ? 1 : 0, fits ? 1 : 0);
+                due(text, fits);
             }
         }
         refused("()");
@@ -206,6 +215,52 @@ public final class GrammarEdgeTest {
         refused(")c(");
         refused("a=(1;)c");
         refused("(c,c)");
+    }
+
+    /** What is no sum stays none in any place of a larger one, also where a number goes with all types. */
+    private static void wrongPiecesInEachPlace() {
+        String[] places = {
+            "#*c", "c*#", "c*x*#", "c*(x+#)", "c*(#+x)", "c*(x-#)", "c/(x/#)", "c*(#/x)", "c*N(x,#)", "c*X(#,x)", "c*S(x,#)",
+            "c*A(#)", "c*F(#)", "c*D(x,#)", "c*D(#,x)", "V(x,#)", "V(#,x)", "V(x,y,#)", "V(#)", "c*-#", "c*--#", "(#)", "#",
+            "a=M(c.xy,#);c", "a=M(#,c.xy);c", "a=#;c", "a=#;a*c", "m=M(c.xy,c.xy);a=m*#;c", "m=M(c.xy,c.xy);a=#*m;c", "c*x.x*#",
+            "c*((((x*(x+#)))))", "c*((((A(x-#)))))", "c*((((N(x,#)))))",
+        };
+        String[] wrong = {
+            "", "b", "z", "-b", "--b", "A(b)", "-A(-b)", "N(b,b)", "N(x,b)", "D(b,b)", "D(x,b)", "V(b,b)", "V(x,b).x", "M(b,b)",
+            "1.x", "1.", ".1", "c.", "c.w", "c.xyzx", "x.y", "b.x", "(b)", "(b).x", "()", "(", ")", "-", "x+", "x*", "x/", "x-",
+            "+x", "*x", "B(x)", "A()", "A(x,x)", "A", "N(x)", "V(x)", "x,x,x,x", "12345", "1.23456", "x=1", "x;", "c.xy+c", "A(c+c.xy)",
+        };
+        for (String place : places) {
+            accepted(place.replace("#", fitting(place)));
+            for (String piece : wrong) {
+                refused(place.replace("#", piece));
+            }
+        }
+    }
+
+    /** A sum that makes a right text of this one. */
+    private static String fitting(String place) {
+        String[] sums = {"x", "c.xy", "c"};
+        for (String sum : sums) {
+            if (Check.compile(new PixelFormula(), place.replace("#", sum))) {
+                return sum;
+            }
+        }
+        return "none";
+    }
+
+    private static void anyCharacterInsteadOfAPart() {
+        for (char character = 33; character <= 126; character++) {
+            boolean fits = "xytc0123456789".indexOf(character) >= 0;
+            due("c*" + character, fits);
+            due("c+x*" + character, fits);
+            due("c*(x-" + character + ")", fits);
+            due("c*N(x," + character + ")", fits);
+            due("c+x." + character, character == 'x');
+            due("c*1" + character + "1", "0123456789.+-*/".indexOf(character) >= 0);
+            refused("c+x*" + character + ")");
+            refused("c*(((((x*" + character + "))))))");
+        }
     }
 
     /** Texts of just 160 characters: nothing behind the last one may be read. */
