@@ -230,11 +230,24 @@ public final class GrammarEdgeTest {
             "1.x", "1.", ".1", "c.", "c.w", "c.xyzx", "x.y", "b.x", "(b)", "(b).x", "()", "(", ")", "-", "x+", "x*", "x/", "x-",
             "+x", "*x", "B(x)", "A()", "A(x,x)", "A", "N(x)", "V(x)", "x,x,x,x", "12345", "1.23456", "x=1", "x;", "c.xy+c", "A(c+c.xy)",
         };
-        for (String place : places) {
-            accepted(place.replace("#", fitting(place)));
-            for (String piece : wrong) {
+        // Here V has its three numbers, or D and M their two arguments, so that nothing more fits.
+        String[] fullPlaces = {
+            "a=V(c,#);c", "V(V(c,#),1)", "a=V(c.xy,x,#);c", "V(V(x,c.xy,#),1)", "V(x,y,t,#)", "V(c,#)", "V(#,c)", "c*D(x,x,#)",
+            "a=M(c.xy,c.xy,#);c", "N(c,c,#)", "A(c,#)",
+        };
+        for (String piece : wrong) {
+            for (String place : places) {
                 refused(place.replace("#", piece));
             }
+            for (String place : fullPlaces) {
+                refused(place.replace("#", piece));
+            }
+        }
+        for (String place : places) {
+            accepted(place.replace("#", fitting(place)));
+        }
+        for (String place : fullPlaces) {
+            refused(place.replace("#", "x"));
         }
     }
 
